@@ -2,6 +2,20 @@ import java.util.Arrays;
 
 /** Promises 5 and 6: load and place, each FAULT with its edges. */
 public final class FaultTest {
+    private static final byte[] EARLIER = earlier();
+
+    private static byte[] earlier() {
+        String[] words = letters(16);
+        words[15] = "ab";
+        long[] merges = new long[24];
+        for (int i = 0; i < 12; i++) {
+            merges[2 * i + 1] = 1;
+        }
+        Spec s = Spec.sound(new int[] {8, 4, 4, 2, 8, 8}, new int[] {Spec.FOURS}, words, merges);
+        s.align = 1;
+        return s.set("align", 1).set("stop", 15).build();
+    }
+
     public static void main(String[] args) {
         soundOnes();
         head();
@@ -26,6 +40,27 @@ public final class FaultTest {
         Check.due(what + ": load()", x.load(), fault);
         Check.due(what + ": place()", x.place(), place);
         Check.due(what + ": is there a MODEL", x.fact(0) == -3 ? 0 : 1, fault == 0 ? 1 : 0);
+        dueBehindOthers(what, octets, fault, place);
+    }
+
+    /** Nothing of FILES that were sound before may help this one, nor may it spoil their MODEL. */
+    private static void dueBehindOthers(String what, byte[] octets, int fault, int place) {
+        TextEngine x = Spec.engine(EARLIER);
+        Check.due(what + ": load() of another", x.load(), 0);
+        Check.due(what + ": load() of another again", x.load(), 0);
+        x.step(1);
+        x.clear();
+        Spec.feed(x, octets);
+        Check.due(what + ": load() behind another", x.load(), fault);
+        Check.due(what + ": place() behind another", x.place(), place);
+        Check.due(what + ": logit behind another", x.logit(1), fault == 0 ? -3 : 0);
+        Check.due(what + ": STEPS behind another", x.reset(), fault == 0 ? 0 : 1);
+        if (fault != 0) {
+            int[] facts = {8, 4, 4, 2, 8, 8, 16, 12, 15, 12, 21, 1};
+            for (int i = 0; i < facts.length; i++) {
+                Check.due(what + ": fact(" + i + ") behind another", x.fact(i), facts[i]);
+            }
+        }
     }
 
     private static void due(String what, Spec s, int fault, int place) {
