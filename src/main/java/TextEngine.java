@@ -42,7 +42,6 @@ public final class TextEngine {
     private final Sayings sayings = new Sayings();
     private Model model = null;
     private Model spare = new Model();
-    private int faultPlace = -1;
 
     public TextEngine() {
     }
@@ -63,7 +62,6 @@ public final class TextEngine {
 
     public int load() {
         int fault = reader.readParts();
-        faultPlace = fault == 0 ? -1 : reader.faultPlace;
         if (fault == 0) {
             fault = maker.make(spare);
         }
@@ -89,7 +87,7 @@ public final class TextEngine {
     }
 
     public int place() {
-        return faultPlace;
+        return reader.faultPlace;
     }
 
     public int fact(int what) {
@@ -301,8 +299,10 @@ public final class TextEngine {
             next = 0;
             fault = 0;
             faultPlace = -1;
-            boolean sound = readHead() && readPairs() && readInfos();
-            return sound ? 0 : fault;
+            if (readHead() && readPairs()) {
+                readInfos();
+            }
+            return fault;
         }
 
         private boolean fail(int what, int where) {
@@ -430,13 +430,11 @@ public final class TextEngine {
             return count >= 0;
         }
 
-        private boolean readInfos() {
-            for (int i = 0; i < tensors; i++) {
-                if (!readName(nameAt, i) || !readSides(i)) {
-                    return false;
-                }
+        private void readInfos() {
+            boolean sound = true;
+            for (int i = 0; sound && i < tensors; i++) {
+                sound = readName(nameAt, i) && readSides(i);
             }
-            return true;
         }
 
         private boolean readSides(int i) {

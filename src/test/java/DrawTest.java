@@ -10,6 +10,7 @@ public final class DrawTest {
         temperatures();
         seeds();
         firstDraws();
+        exactlyAtASum();
         likeOracle();
         Check.end();
     }
@@ -196,6 +197,37 @@ public final class DrawTest {
         TextEngine x = stepped(new double[16]);
         Check.due("first draw", x.draw(100, 16, 100), 0);
         Check.due("second draw", x.draw(100, 16, 100), 1152992998833853505L >>> 60);
+    }
+
+    /** The SEED that becomes this one. */
+    private static long before(long seed) {
+        long s = undo(seed, 17, true);
+        s = undo(s, 7, false);
+        return undo(s, 13, true);
+    }
+
+    private static long undo(long mixed, int by, boolean left) {
+        long s = mixed;
+        for (int i = 0; i < 64; i += by) {
+            s = mixed ^ (left ? s << by : s >>> by);
+        }
+        return s;
+    }
+
+    /** Where d is just the SUM up to the first one, that is not above it. */
+    private static void exactlyAtASum() {
+        TextEngine x = stepped(0, 0, 0, 0);
+        for (int quarter = 0; quarter < 4; quarter++) {
+            long top = quarter * 0x400000L << 40;
+            if (quarter > 0) {
+                x.seed(before(top));
+                Check.due("d is " + quarter, x.draw(100, 4, 100), quarter);
+            }
+            x.seed(before(top | 0xFFFFFFFFFFL));
+            Check.due("d is " + quarter + ", with low bits that do not count", x.draw(100, 4, 100), quarter);
+            x.seed(before(top | 0x3FFFFFL << 40));
+            Check.due("d is just below " + (quarter + 1), x.draw(100, 4, 100), quarter);
+        }
     }
 
     private static void likeOracle() {

@@ -11,6 +11,7 @@ public final class StepTest {
         sharedHeads();
         feeding();
         golden();
+        greatWeights();
         resets();
         loadResets();
         Check.end();
@@ -240,6 +241,29 @@ public final class StepTest {
         for (int i = 0; i < tokens.length; i++) {
             due(x, tokens[i], i, logits[i]);
         }
+    }
+
+    /** The greatest weights there are: ROOT is far from done after its 40 times, and all stays finite. */
+    private static void greatWeights() {
+        int[] packings = {Spec.EIGHTS};
+        Spec s = Spec.sound(new int[] {8, 4, 1, 1, 8, 4}, packings, new String[] {"a", "b"}, new long[0]);
+        for (Spec.Tensor t : s.tensors) {
+            boolean out = t.name.equals("out");
+            for (int at = 0; at < t.data.length; at += 10) {
+                java.util.Arrays.fill(t.data, at, at + 10, (byte) (out ? 1 : 127));
+                t.setHalf(at, Spec.half(1));
+            }
+        }
+        s.tensor("out").data[2] = 2;
+        TextEngine x = Spec.loaded(s);
+        Oracle o = oracle(s);
+        for (int i = 0; i < 6; i++) {
+            Check.due("step", x.step(i % 2), o.step(i % 2));
+            Check.due("logit(0) of great weights", x.logit(0), o.logit(0));
+            Check.due("logit(1) of great weights", x.logit(1), o.logit(1));
+        }
+        // With the true root each y would be 127, and this 9 * 127 * 1024.
+        Check.holds("ROOT is not done", x.logit(0) > 0 && x.logit(0) < 9 * 127 * 512);
     }
 
     private static void resets() {
