@@ -15,48 +15,8 @@ public final class DrawTest {
         Check.end();
     }
 
-    private static String[] words(int n) {
-        String[] words = new String[n];
-        for (int i = 0; i < n; i++) {
-            words[i] = String.valueOf((char) ('a' + i));
-        }
-        return words;
-    }
-
-    /** LOGITS behind a STEP with TOKEN 0 are twice the given ones; nothing happens in the layer. */
-    private static Spec withHalfLogits(double... halves) {
-        int n = halves.length;
-        int[] packings = new int[12];
-        java.util.Arrays.fill(packings, Spec.FOURS);
-        packings[0] = Spec.HALVES;
-        packings[1] = Spec.HALVES;
-        packings[2] = Spec.HALVES;
-        Spec s = Spec.sound(new int[] {8, 2, 1, 1, 8, 4}, packings, words(n), new long[0]);
-        s.tensor("embed").fillHalves(2);
-        s.tensor("norm").fillHalves(1);
-        for (int i = 0; i < n; i++) {
-            s.tensor("out").setHalf(16 * i, Spec.half(halves[i]));
-        }
-        return s;
-    }
-
-    private static TextEngine stepped(double... halves) {
-        TextEngine x = Spec.loaded(withHalfLogits(halves));
-        Check.due("step(0)", x.step(0), 0);
-        for (int i = 0; i < halves.length; i++) {
-            Check.due("logit(" + i + ")", x.logit(i), (long) (halves[i] * 2048));
-        }
-        return x;
-    }
-
-    private static long next(long seed) {
-        long s = seed ^ seed << 13;
-        s = s ^ s >>> 7;
-        return s ^ s << 17;
-    }
-
     private static void refusals() {
-        TextEngine x = stepped(0, 1);
+        TextEngine x = Spec.stepped(0, 1);
         int[][] bad = {{-1, 1, 1}, {401, 1, 1}, {0, 0, 1}, {0, 17, 1}, {0, 1, 0}, {0, 1, 101}, {100, -1, 50},
             {100, 1, -1}, {Integer.MAX_VALUE, 1, 1}, {Integer.MIN_VALUE, 1, 1}, {1, Integer.MAX_VALUE, 1},
             {1, 1, Integer.MIN_VALUE}};
@@ -74,25 +34,25 @@ public final class DrawTest {
     }
 
     private static void coldest() {
-        Check.due("the greatest", stepped(0, -1, 3, 2).draw(0, 4, 100), 2);
-        Check.due("of equal ones the least", stepped(0, 3, 3, 2).draw(0, 4, 100), 1);
-        Check.due("all equal", stepped(0, 0, 0).draw(0, 1, 1), 0);
-        Check.due("all below 0", stepped(-3, -2, -2.5).draw(0, 1, 1), 1);
-        Check.due("the last", stepped(-3, -2, -1).draw(0, 1, 1), 2);
+        Check.due("the greatest", Spec.stepped(0, -1, 3, 2).draw(0, 4, 100), 2);
+        Check.due("of equal ones the least", Spec.stepped(0, 3, 3, 2).draw(0, 4, 100), 1);
+        Check.due("all equal", Spec.stepped(0, 0, 0).draw(0, 1, 1), 0);
+        Check.due("all below 0", Spec.stepped(-3, -2, -2.5).draw(0, 1, 1), 1);
+        Check.due("the last", Spec.stepped(-3, -2, -1).draw(0, 1, 1), 2);
     }
 
     /** With n equal LOGITS each e is 1: TOKEN i is drawn for d from i up to below i + 1. */
     private static void equalOnes() {
         for (int n : new int[] {2, 5, 16}) {
-            TextEngine x = stepped(new double[n]);
+            TextEngine x = Spec.stepped(new double[n]);
             long seed = 1;
             for (int i = 0; i < 60; i++) {
-                seed = next(seed);
+                seed = Spec.nextSeed(seed);
                 float d = (seed >>> 40) / 16777216f * n;
                 Check.due("draw " + i + " of " + n, x.draw(100, 16, 100), (int) d);
             }
             for (int k = 1; k <= 16; k++) {
-                seed = next(seed);
+                seed = Spec.nextSeed(seed);
                 float d = (seed >>> 40) / 16777216f * Math.min(n, k);
                 Check.due("draw of the first " + k + " of " + n, x.draw(30, k, 100), (int) d);
             }
@@ -102,11 +62,11 @@ public final class DrawTest {
     /** Of 4 equal ones 25 percent are 1, 26 are 2, 50 are 2, 51 are 3, 76 are 4. */
     private static void fewest() {
         int[][] stay = {{1, 1}, {25, 1}, {26, 2}, {50, 2}, {51, 3}, {75, 3}, {76, 4}, {100, 4}};
-        TextEngine x = stepped(0, 0, 0, 0, -4);
+        TextEngine x = Spec.stepped(0, 0, 0, 0, -4);
         long seed = 1;
         for (int[] one : stay) {
             for (int i = 0; i < 12; i++) {
-                seed = next(seed);
+                seed = Spec.nextSeed(seed);
                 float d = (seed >>> 40) / 16777216f * one[1];
                 Check.due("draw of " + one[0] + " percent", x.draw(50, 4, one[0]), (int) d);
             }
@@ -115,13 +75,13 @@ public final class DrawTest {
 
     /** Two LOGITS, 2 apart: the second has EXP of -2 / T. */
     private static void temperatures() {
-        TextEngine x = stepped(0, 1);
+        TextEngine x = Spec.stepped(0, 1);
         long seed = 77;
         x.seed(77);
         int second = 0;
         for (int t : new int[] {1, 50, 100, 200, 400}) {
             for (int i = 0; i < 30; i++) {
-                seed = next(seed);
+                seed = Spec.nextSeed(seed);
                 double least = Math.max(-16, -2 / (t / 100.0));
                 double e = Math.pow(1 + least / 256, 256);
                 double d = (seed >>> 40) / 16777216.0 * (1 + e);
@@ -148,8 +108,8 @@ public final class DrawTest {
 
     /** The SEED is 1 at first, stays with temperature 0 and refusals, and behind reset() and load(). */
     private static void seeds() {
-        int[] first = draws(stepped(new double[16]), 20);
-        TextEngine x = stepped(new double[16]);
+        int[] first = draws(Spec.stepped(new double[16]), 20);
+        TextEngine x = Spec.stepped(new double[16]);
         x.seed(0);
         dueDraws("seed(0) is 1", x, first);
         x.seed(1);
@@ -165,67 +125,52 @@ public final class DrawTest {
         dueDraws("what leaves the SEED", x, first);
         x.seed(1);
         x.draw(400, 1, 100);
-        long seed = next(1);
+        long seed = Spec.nextSeed(1);
         for (int i = 0; i < 10; i++) {
-            seed = next(seed);
+            seed = Spec.nextSeed(seed);
             Check.due("k 1 moves the SEED", x.draw(400, 16, 100), seed >>> 60);
         }
         x.load();
         x.step(0);
-        seed = next(seed);
+        seed = Spec.nextSeed(seed);
         Check.due("load() leaves the SEED", x.draw(400, 16, 100), seed >>> 60);
         x.seed(Long.MIN_VALUE);
-        seed = next(Long.MIN_VALUE);
+        seed = Spec.nextSeed(Long.MIN_VALUE);
         Check.due("seed(MIN)", x.draw(400, 16, 100), seed >>> 60);
-        seed = next(seed);
+        seed = Spec.nextSeed(seed);
         Check.due("seed(MIN), second", x.draw(400, 16, 100), seed >>> 60);
         TextEngine early = new TextEngine();
         early.seed(12345678901L);
-        Spec.feed(early, withHalfLogits(new double[16]).build());
+        Spec.feed(early, Spec.withHalfLogits(new double[16]).build());
         early.load();
         early.step(0);
-        seed = next(12345678901L);
-        seed = next(seed);
+        seed = Spec.nextSeed(12345678901L);
+        seed = Spec.nextSeed(seed);
         early.draw(1, 1, 1);
         Check.due("a SEED from before load()", early.draw(400, 16, 100), seed >>> 60);
     }
 
     /** What SEED 1 draws from 16 equal ones: the top 4 bits of 1082269761, 1152992998833853505 .. */
     private static void firstDraws() {
-        Check.due("SEED 1, once", next(1), 1082269761L);
-        Check.due("SEED 1, twice", next(1082269761L), 1152992998833853505L);
-        TextEngine x = stepped(new double[16]);
+        Check.due("SEED 1, once", Spec.nextSeed(1), 1082269761L);
+        Check.due("SEED 1, twice", Spec.nextSeed(1082269761L), 1152992998833853505L);
+        TextEngine x = Spec.stepped(new double[16]);
         Check.due("first draw", x.draw(100, 16, 100), 0);
         Check.due("second draw", x.draw(100, 16, 100), 1152992998833853505L >>> 60);
     }
 
-    /** The SEED that becomes this one. */
-    private static long before(long seed) {
-        long s = undo(seed, 17, true);
-        s = undo(s, 7, false);
-        return undo(s, 13, true);
-    }
-
-    private static long undo(long mixed, int by, boolean left) {
-        long s = mixed;
-        for (int i = 0; i < 64; i += by) {
-            s = mixed ^ (left ? s << by : s >>> by);
-        }
-        return s;
-    }
-
     /** Where d is just the SUM up to the first one, that is not above it. */
     private static void exactlyAtASum() {
-        TextEngine x = stepped(0, 0, 0, 0);
+        TextEngine x = Spec.stepped(0, 0, 0, 0);
         for (int quarter = 0; quarter < 4; quarter++) {
             long top = quarter * 0x400000L << 40;
             if (quarter > 0) {
-                x.seed(before(top));
+                x.seed(Spec.seedBefore(top));
                 Check.due("d is " + quarter, x.draw(100, 4, 100), quarter);
             }
-            x.seed(before(top | 0xFFFFFFFFFFL));
+            x.seed(Spec.seedBefore(top | 0xFFFFFFFFFFL));
             Check.due("d is " + quarter + ", with low bits that do not count", x.draw(100, 4, 100), quarter);
-            x.seed(before(top | 0x3FFFFFL << 40));
+            x.seed(Spec.seedBefore(top | 0x3FFFFFL << 40));
             Check.due("d is just below " + (quarter + 1), x.draw(100, 4, 100), quarter);
         }
     }
@@ -238,9 +183,9 @@ public final class DrawTest {
             for (int i = 0; i < n; i++) {
                 halves[i] = (random.nextInt(65) - 32) / (run % 2 == 0 ? 8.0 : 32.0);
             }
-            TextEngine x = stepped(halves);
+            TextEngine x = Spec.stepped(halves);
             Oracle o = new Oracle();
-            for (byte octet : withHalfLogits(halves).build()) {
+            for (byte octet : Spec.withHalfLogits(halves).build()) {
                 o.file(octet, 1);
             }
             o.load();

@@ -5,7 +5,7 @@ public final class FaultTest {
     private static final byte[] EARLIER = earlier();
 
     private static byte[] earlier() {
-        String[] words = letters(16);
+        String[] words = Spec.letters(16);
         words[15] = "ab";
         long[] merges = new long[24];
         for (int i = 0; i < 12; i++) {
@@ -279,20 +279,12 @@ public final class FaultTest {
         return Spec.sound(new int[] {8, 2, 1, 1, 8, 4}, new int[] {Spec.FOURS}, words, merges);
     }
 
-    private static String[] letters(int n) {
-        String[] words = new String[n];
-        for (int i = 0; i < n; i++) {
-            words[i] = String.valueOf((char) ('a' + i));
-        }
-        return words;
-    }
-
     private static void tokens() {
-        due("2 TOKENS", withWords(letters(2)), 0, -1);
-        due("16 TOKENS", withWords(letters(16)), 0, -1);
-        Spec one = withWords(letters(2)).set("tokens", Spec.ARRAY, Spec.texts("a"));
+        due("2 TOKENS", withWords(Spec.letters(2)), 0, -1);
+        due("16 TOKENS", withWords(Spec.letters(16)), 0, -1);
+        Spec one = withWords(Spec.letters(2)).set("tokens", Spec.ARRAY, Spec.texts("a"));
         due("1 TOKEN", one, 9, -1);
-        Spec more = withWords(letters(16)).set("tokens", Spec.ARRAY, Spec.texts(letters(17)));
+        Spec more = withWords(Spec.letters(16)).set("tokens", Spec.ARRAY, Spec.texts(Spec.letters(17)));
         due("17 TOKENS", more, 9, -1);
         due("no TOKENS, of TEXT", Spec.plain().set("tokens", Spec.ARRAY, Spec.array(Spec.TEXT)), 9, -1);
         due("no TOKENS, of NUMBER", Spec.plain().set("tokens", Spec.ARRAY, Spec.array(Spec.NUMBER)), 9, -1);
@@ -336,12 +328,12 @@ public final class FaultTest {
     }
 
     private static void shapes() {
-        Spec two = Spec.sound(new int[] {8, 4, 2, 2, 16, 2}, new int[] {Spec.FOURS}, letters(2), new long[0]);
+        Spec two = Spec.sound(new int[] {8, 4, 2, 2, 16, 2}, new int[] {Spec.FOURS}, Spec.letters(2), new long[0]);
         due("two layers", two, 0, -1);
         for (int i = 0; i < two.tensors.size(); i++) {
             int[][] changes = {{8, 0}, {0, 1}, {0, -1}};
             for (int[] change : changes) {
-                Spec s = Spec.sound(new int[] {8, 4, 2, 2, 16, 2}, new int[] {Spec.FOURS}, letters(2),
+                Spec s = Spec.sound(new int[] {8, 4, 2, 2, 16, 2}, new int[] {Spec.FOURS}, Spec.letters(2),
                     new long[0]);
                 Spec.Tensor old = s.tensors.get(i);
                 int columns = old.columns == 16 && change[0] == 8 ? 8 : old.columns + change[0];
@@ -352,7 +344,7 @@ public final class FaultTest {
                 s.tensors.set(i, new Spec.Tensor(old.name, columns, rows, Spec.FOURS));
                 due(old.name + " of " + columns + ", " + rows, s, 10, -1);
             }
-            Spec s = Spec.sound(new int[] {8, 4, 2, 2, 16, 2}, new int[] {Spec.FOURS}, letters(2),
+            Spec s = Spec.sound(new int[] {8, 4, 2, 2, 16, 2}, new int[] {Spec.FOURS}, Spec.letters(2),
                 new long[0]);
             s.tensors.get(i).name = "x" + i;
             due("without TENSOR " + i, s, 10, -1);
@@ -439,7 +431,7 @@ public final class FaultTest {
     /** The last HALF or SCALE of each of two TENSORS, a needed one and another, becomes the bits. */
     private static void oneHalf(int packing, int bits, int fault) {
         for (String name : new String[] {"g0", "more"}) {
-            Spec s = Spec.sound(new int[] {8, 2, 1, 1, 8, 4}, new int[] {packing}, letters(2), new long[0]);
+            Spec s = Spec.sound(new int[] {8, 2, 1, 1, 8, 4}, new int[] {packing}, Spec.letters(2), new long[0]);
             s.tensors.add(new Spec.Tensor("more", 8, 3, packing));
             Spec.Tensor t = s.tensor(name);
             int step = packing == Spec.HALVES ? 2 : packing == Spec.FOURS ? 6 : 10;

@@ -11,32 +11,6 @@ public final class SayTest {
         Check.end();
     }
 
-    /** Behind a STEP with TOKEN t the greatest LOGIT is that of follower[t]. */
-    private static Spec chain(int stop, int... follower) {
-        int n = follower.length;
-        String[] words = new String[n];
-        for (int i = 0; i < n; i++) {
-            words[i] = String.valueOf((char) ('a' + i));
-        }
-        int[] packings = new int[12];
-        java.util.Arrays.fill(packings, Spec.FOURS);
-        packings[0] = Spec.HALVES;
-        packings[1] = Spec.HALVES;
-        packings[2] = Spec.HALVES;
-        Spec s = Spec.sound(new int[] {8, 2, 1, 1, 8, 4}, packings, words, new long[0]);
-        s.set("stop", stop);
-        double[] out = new double[8 * n];
-        double[] embed = new double[8 * n];
-        for (int t = 0; t < n; t++) {
-            embed[8 * t + t] = 2;
-            out[8 * follower[t] + t] = 1;
-        }
-        s.tensor("embed").fillHalves(embed);
-        s.tensor("out").fillHalves(out);
-        s.tensor("norm").fillHalves(1, 1, 1, 1, 1, 1, 1, 1);
-        return s;
-    }
-
     private static void dueSaid(TextEngine x, int... latestFirst) {
         for (int k = 0; k < latestFirst.length; k++) {
             Check.due("said(" + k + ")", x.said(k), latestFirst[k]);
@@ -45,7 +19,7 @@ public final class SayTest {
     }
 
     private static void refusals() {
-        TextEngine x = Spec.loaded(chain(3, 1, 2, 0, 3));
+        TextEngine x = Spec.loaded(Spec.chain(3, 1, 2, 0, 3));
         Check.due("say without a STEP", x.say(1), -3);
         Check.due("say(0) without a STEP", x.say(0), -1);
         Check.due("say(17) without a STEP", x.say(17), -1);
@@ -62,7 +36,7 @@ public final class SayTest {
     }
 
     private static void goesOn() {
-        TextEngine x = Spec.loaded(chain(3, 1, 2, 0, 3));
+        TextEngine x = Spec.loaded(Spec.chain(3, 1, 2, 0, 3));
         x.step(0);
         Check.due("say(1)", x.say(1), 1);
         dueSaid(x, 1);
@@ -77,7 +51,7 @@ public final class SayTest {
     }
 
     private static void stops() {
-        TextEngine x = Spec.loaded(chain(2, 1, 2, 0, 3));
+        TextEngine x = Spec.loaded(Spec.chain(2, 1, 2, 0, 3));
         x.step(0);
         Check.due("say(5) up to stop", x.say(5), 2);
         dueSaid(x, 2, 1);
@@ -93,7 +67,7 @@ public final class SayTest {
     }
 
     private static void full() {
-        TextEngine x = Spec.loaded(chain(3, 1, 2, 0, 3));
+        TextEngine x = Spec.loaded(Spec.chain(3, 1, 2, 0, 3));
         for (int i = 0; i < 58; i++) {
             x.step(0);
         }
@@ -110,7 +84,7 @@ public final class SayTest {
 
     /** Of the TOKENS SAID the latest 32 are kept. */
     private static void keeps() {
-        TextEngine x = Spec.loaded(chain(4, 1, 2, 3, 0, 4));
+        TextEngine x = Spec.loaded(Spec.chain(4, 1, 2, 3, 0, 4));
         x.step(0);
         x.say(15);
         x.say(16);
@@ -136,7 +110,7 @@ public final class SayTest {
     }
 
     private static void equalOnes() {
-        Spec s = chain(3, 1, 2, 0, 3);
+        Spec s = Spec.chain(3, 1, 2, 0, 3);
         s.tensor("out").setHalf(2 * 8 * 2, Spec.half(1));
         TextEngine x = Spec.loaded(s);
         x.step(0);
@@ -151,7 +125,7 @@ public final class SayTest {
     }
 
     private static void forgets() {
-        TextEngine x = Spec.loaded(chain(3, 1, 2, 0, 3));
+        TextEngine x = Spec.loaded(Spec.chain(3, 1, 2, 0, 3));
         x.step(0);
         x.say(2);
         Check.due("reset()", x.reset(), 3);

@@ -1,6 +1,7 @@
 import java.io.ByteArrayOutputStream;
 import java.nio.charset.StandardCharsets;
 import java.util.ArrayList;
+import java.util.Arrays;
 import java.util.List;
 import java.util.Random;
 
@@ -188,6 +189,76 @@ final class Spec {
     static Spec plain() {
         return sound(new int[] {8, 2, 1, 1, 8, 4}, new int[] {HALVES},
             new String[] {"a", "b", "ab", "c"}, new long[] {0, 1});
+    }
+
+    static String[] letters(int n) {
+        String[] words = new String[n];
+        for (int i = 0; i < n; i++) {
+            words[i] = String.valueOf((char) ('a' + i));
+        }
+        return words;
+    }
+
+    /** So many one-letter TOKENS; embed, norm and out are HALVES, and nothing happens in the layer. */
+    static Spec still(int tokens) {
+        int[] packings = new int[12];
+        Arrays.fill(packings, FOURS);
+        Arrays.fill(packings, 0, 3, HALVES);
+        return sound(new int[] {8, 2, 1, 1, 8, 4}, packings, letters(tokens), new long[0]);
+    }
+
+    /** LOGITS behind a STEP with TOKEN 0 are twice the given ones. */
+    static Spec withHalfLogits(double... halves) {
+        Spec s = still(halves.length);
+        s.tensor("embed").fillHalves(2);
+        s.tensor("norm").fillHalves(1);
+        for (int i = 0; i < halves.length; i++) {
+            s.tensor("out").setHalf(16 * i, half(halves[i]));
+        }
+        return s;
+    }
+
+    /** An object behind a STEP, with LOGITS that are twice the given ones. */
+    static TextEngine stepped(double... halves) {
+        TextEngine x = loaded(withHalfLogits(halves));
+        Check.due("step(0)", x.step(0), 0);
+        for (int i = 0; i < halves.length; i++) {
+            Check.due("logit(" + i + ")", x.logit(i), (long) (halves[i] * 2048));
+        }
+        return x;
+    }
+
+    /** Behind a STEP with TOKEN t (of at most 8) the greatest LOGIT is that of follower[t]. */
+    static Spec chain(int stop, int... follower) {
+        Spec s = still(follower.length);
+        s.set("stop", stop);
+        for (int t = 0; t < follower.length; t++) {
+            s.tensor("embed").setHalf(2 * (8 * t + t), half(2));
+            s.tensor("out").setHalf(2 * (8 * follower[t] + t), half(1));
+        }
+        s.tensor("norm").fillHalves(1, 1, 1, 1, 1, 1, 1, 1);
+        return s;
+    }
+
+    static long nextSeed(long seed) {
+        long s = seed ^ seed << 13;
+        s = s ^ s >>> 7;
+        return s ^ s << 17;
+    }
+
+    /** The SEED that becomes this one. */
+    static long seedBefore(long seed) {
+        long s = undo(seed, 17, true);
+        s = undo(s, 7, false);
+        return undo(s, 13, true);
+    }
+
+    private static long undo(long mixed, int by, boolean left) {
+        long s = mixed;
+        for (int i = 0; i < 64; i += by) {
+            s = mixed ^ (left ? s << by : s >>> by);
+        }
+        return s;
     }
 
     /** Weights of about the given size in all TENSORS. */
