@@ -3,7 +3,10 @@ import java.util.ArrayList;
 import java.util.Arrays;
 import java.util.List;
 
-/** Promise 5, load, with what the Terms say of LOADING: each sentence with its edges. */
+/**
+ * Promise 5, load, with what the Terms say of LOADING: each sentence with its edges. Those of tokens and
+ * merges, of SHAPES and of WEIGHTS are in FaultTest.
+ */
 public final class Promise05Test {
     private static final int SHORT = 1, MAGIC = 2, AGE = 3, LONG = 4, TYPE = 5, DEEP = 6, TWICE = 7;
     private static final int MISSING = 8, VALUE = 9, SHAPE = 10, PLACE = 11, WEIGHT = 12;
@@ -191,6 +194,13 @@ public final class Promise05Test {
             s.tensors.add(new Spec.Tensor("t" + i, 1, 1, Spec.HALVES));
         }
         due("24 PAIRS and TENSORS", s, 0);
+        Spec other = small();
+        while (other.pairs.size() < 24) {
+            other.set("p" + other.pairs.size(), Spec.TEXT, Spec.string(""));
+        }
+        due("24 PAIRS without align", other, 0);
+        other.pair("dim").key = "Dim";
+        due("24 PAIRS without dim", other, MISSING);
         TextEngine x = Spec.loaded(s);
         Check.due("24 PAIRS: fact(9)", x.fact(9), 24);
         Check.due("24 TENSORS: fact(10)", x.fact(10), 24);
@@ -322,12 +332,12 @@ public final class Promise05Test {
     /** "11 PLACE: an OFFSET is no multiple of ALIGN, DATA of a TENSOR (needed or not) reach beyond". */
     private static void offsets() {
         for (String name : new String[] {"embed", "d0", "more"}) {
-            for (int add : new int[] {1, 4, 7}) {
+            for (int add = 0; add <= 8; add++) {
                 Spec s = withTensor(8, 1, Spec.FOURS);
-                byte[] octets = s.build();
-                int at = s.tensor(name).infoAt + 1 + name.length() + 1 + s.tensor(name).sides + 1;
-                octets[at] += (byte) add;
-                due(name + " at an OFFSET that is " + add + " on", octets, PLACE);
+                // Behind all others, so that nothing is in common.
+                s.tensor(name).offset = s.build().length - s.dataAt + 8 & -8;
+                s.tensor(name).offset += add;
+                due(name + " at an OFFSET that is " + add + " on", s, add % 8 == 0 ? 0 : PLACE);
             }
         }
         Spec s = withTensor(8, 1, Spec.HALVES);
@@ -350,13 +360,17 @@ public final class Promise05Test {
 
     /** "or have an OCTET in common with those of another one": the last with the first, either way round. */
     private static void neighbours() {
-        for (String[] two : new String[][] {{"norm", "a0"}, {"a0", "norm"}, {"more", "f0"}, {"f0", "more"}}) {
-            for (int from = 0; from <= 7; from++) {
+        String[][] pairs = {{"norm", "a0"}, {"a0", "norm"}, {"more", "f0"}, {"f0", "more"}, {"embed", "more"},
+            {"more", "embed"}, {"embed", "norm"}, {"norm", "embed"}};
+        for (String[] two : pairs) {
+            Spec sizes = withTensor(8, 1, Spec.FOURS);
+            int size = sizes.tensor(two[0]).data.length;
+            for (int from = 0; from <= size + 1; from++) {
                 Spec s = withTensor(8, 1, Spec.FOURS).set("align", 1);
                 s.align = 1;
                 s.tensor(two[0]).offset = 0;
                 s.tensor(two[1]).offset = from;
-                due(two[0] + " at 0 and " + two[1] + " at " + from, s, from < 6 ? PLACE : 0);
+                due(two[0] + " at 0 and " + two[1] + " at " + from, s, from < size ? PLACE : 0);
             }
         }
         Spec same = withTensor(8, 1, Spec.FOURS);

@@ -189,13 +189,14 @@ public final class Promise13Test {
         Check.holds("what is left of TOKEN 0: " + held, Math.abs(held - left * 2 * 127 * 1024) < 2);
         Check.due("at -90", lookBack(0.5), held);
         Check.due("at -22", lookBack(0.25), held);
-        Check.holds("at -12 there is more", lookBack(0.1875) > held * 2);
+        Check.due("at -16.9", lookBack(Spec.valueOf(Spec.near(0.216))), held);
+        Check.holds("at -15.4 there is more", lookBack(Spec.valueOf(Spec.near(0.206))) > held * 1.5);
     }
 
     /** "and at most 16": with g far below 0 the EXP of 0 - g is that of 16. */
     private static void expAtMost() {
-        double e16 = Math.pow(1 + 16 / 256.0, 256);
-        for (double g : new double[] {-8, -12, -16}) {
+        for (double g : new double[] {-7.5, -7.75, -8, -8.25, -8.5, -12, -16}) {
+            double exp = Math.pow(1 + Math.min(16, -2 * g) / 256, 256);
             Spec s = Spec.sound(new int[] {8, 1, 1, 1, 8, 4}, new int[] {Spec.HALVES}, Spec.letters(2),
                 new long[0]);
             s.tensor("embed").fillHalves(2);
@@ -207,7 +208,7 @@ public final class Promise13Test {
             s.tensor("out").fillHalves(0, 16);
             TextEngine x = Spec.loaded(s);
             x.step(0);
-            double n = 2 * g / (1 + e16) * 32 * 16;
+            double n = 2 * g / (1 + exp) * 32 * 16;
             int due = (int) (n * 16 / Math.sqrt((4 + n * n) / 8 + 0.5) * 1024);
             Check.due("logit(0) with g " + 2 * g, x.logit(0), due);
         }

@@ -141,8 +141,8 @@ public final class Promise16Test {
 
     /** "those stay that are needed for the SUM .. to be at least percent / 100 * (SUM of all k): the fewest." */
     private static void theFewest() {
-        TextEngine x = Spec.stepped(new double[16]);
         for (int k = 1; k <= 16; k++) {
+            TextEngine x = Spec.stepped(new double[16]);
             for (int percent : new int[] {1, 6, 7, 24, 25, 26, 49, 50, 51, 74, 75, 76, 99, 100}) {
                 float enough = percent / 100f * k;
                 int stay = 1;

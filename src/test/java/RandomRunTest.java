@@ -35,7 +35,7 @@ public final class RandomRunTest {
         feed(octets);
         due("load()", x.load(), o.load());
         while (calls < CALLS_MOST) {
-            randomCall(octets.length);
+            randomCall();
         }
     }
 
@@ -136,7 +136,7 @@ public final class RandomRunTest {
         return random.nextInt(20) == 0 ? random.nextInt(400) - 100 : random.nextInt(most + 1);
     }
 
-    private void randomCall(int size) {
+    private void randomCall() {
         switch (random.nextInt(17)) {
             case 0: case 1: case 2: {
                 int t = upTo(o.fact(6) > 0 ? o.fact(6) - 1 : 1);
@@ -201,7 +201,7 @@ public final class RandomRunTest {
                 break;
             }
             case 15:
-                seldom(size);
+                seldom();
                 break;
             default: {
                 int k = random.nextInt(3) == 0 ? random.nextInt(1400) : random.nextInt(300);
@@ -216,7 +216,7 @@ public final class RandomRunTest {
         }
     }
 
-    private void seldom(int size) {
+    private void seldom() {
         switch (random.nextInt(8)) {
             case 0:
                 due("reset()", x.reset(), o.reset());
@@ -245,7 +245,7 @@ public final class RandomRunTest {
                     due("clear()", x.clear(), o.clear());
                     due("load()", x.load(), o.load());
                     due("place()", x.place(), o.place());
-                    if (calls < CALLS_MOST - size / 8 - 2) {
+                    if (calls < CALLS_MOST - 1400 / 8 - 2) {
                         feed(randomFile());
                         due("load()", x.load(), o.load());
                     }

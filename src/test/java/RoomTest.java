@@ -20,7 +20,7 @@ public final class RoomTest {
         TextEngine x = Spec.engine(octets);
         x.load();
         long made = BEAN.getCurrentThreadAllocatedBytes();
-        for (int i = 0; i < 40; i++) {
+        for (int i = 0; i < 30; i++) {
             x.load();
             x.text(0x6261, 2);
             x.encode();
