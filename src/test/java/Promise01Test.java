@@ -8,6 +8,7 @@ public final class Promise01Test {
         nothingYet();
         seedOne();
         nothingShared();
+        fiveHundredTwelveCalls();
         Check.end();
     }
 
@@ -79,5 +80,21 @@ public final class Promise01Test {
         noModel();
         nothingYet();
         Check.due("and keeps it", x.step(0), Stage.RUNNING.steps);
+    }
+
+    /** "An object is used for at most 512 calls after it has been made": the last of them answers too. */
+    private static void fiveHundredTwelveCalls() {
+        byte[] octets = Spec.withHalfLogits(new double[16]).build();
+        TextEngine x = Spec.engine(octets);
+        int calls = (octets.length + 7) / 8;
+        x.load();
+        x.step(0);
+        calls += 2;
+        long seed = 1;
+        while (calls < 512) {
+            seed = Spec.nextSeed(seed);
+            calls++;
+            Check.due("call " + calls, x.draw(100, 16, 100), seed >>> 60);
+        }
     }
 }
